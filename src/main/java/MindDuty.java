@@ -224,10 +224,7 @@ public final class MindDuty {
             return OUTSIDE;
         }
         country.findMinutes(b, minutesLeft);
-        if (what == 0) {
-            return minutesLeft[a];
-        }
-        return a == b || minutesLeft[a] == NONE ? NONE : nextOnTheWay(a);
+        return what == 0 ? minutesLeft[a] : nextOnTheWay(a);
     }
 
     public int soonest(int t) {
@@ -440,6 +437,7 @@ public final class MindDuty {
     }
 
     private int nextOnTheWay(int a) {
+        // each talk takes a minute at least: none fits 0 minutes to itself, nor NONE where no way leads
         int next = NONE;
         for (int k = 0; k < country.talks; k++) {
             int to = country.talkTo[k];
@@ -482,9 +480,7 @@ public final class MindDuty {
         int best = same;
         int sets = 1 << country.ideas;
         for (int set = 0; set < sets; set++) {
-            int fewer = Integer.bitCount(best) - Integer.bitCount(set);
-            boolean ahead = fewer > 0 || fewer == 0 && set < best;
-            if (ahead && country.allFrom(set) == same) {
+            if (Integer.bitCount(set) < Integer.bitCount(best) && country.allFrom(set) == same) {
                 best = set;
             }
         }

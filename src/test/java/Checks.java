@@ -30,6 +30,10 @@ final class Checks {
         due(what, so ? 1 : 0, 1);
     }
 
+    boolean isGood() {
+        return wrong == 0;
+    }
+
     void end() {
         System.out.println(asked + " checks, " + wrong + " wrong");
         if (wrong != 0 || asked == 0) {

@@ -12,6 +12,7 @@ public final class DoneTest {
         test.registering();
         test.drifting();
         test.driftingByHand();
+        test.lostBelowTheOdds();
         test.undoing();
         test.wrongNumbers();
         test.refusalsChangeNothing();
@@ -159,6 +160,24 @@ public final class DoneTest {
         }
         checks.holds("someone was lost on these days", lost > 0);
         checks.due("THE SEED", duty.seed(0), lot);
+    }
+
+    /** One TRAVELLER, one IDEA too large for the gate: a DRAW of just Q brings him through, one less does not. */
+    private void lostBelowTheOdds() {
+        int[] met = new int[2];
+        for (int lot = 0; lot < 20000; lot++) {
+            long mind = nextLot(nextLot(lot));
+            int last = (int) (nextLot(mind) / 65536 % 100);
+            if (mind / 65536 % 2 == 1 && (last == 37 || last == 36)) {
+                MindDuty duty = Checks.made("g5 37;i6;t0;");
+                duty.seed(lot);
+                checks.due("drift(1) of " + lot, duty.drift(1), 0);
+                checks.due("REGISTERED by a DRAW of " + last, duty.told(7), last - 36);
+                checks.due("GONE either way", duty.told(9), 1);
+                met[last - 36]++;
+            }
+        }
+        checks.holds("both were met", met[0] > 0 && met[1] > 0);
     }
 
     private static long nextLot(long lot) {

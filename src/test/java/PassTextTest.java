@@ -18,6 +18,7 @@ public final class PassTextTest {
         test.faultLeavesAllElse();
         test.passForgets();
         test.emptyText();
+        test.textsInARow();
         test.told();
         test.sizes();
         test.travellers();
@@ -277,6 +278,29 @@ public final class PassTextTest {
         checks.due("drift(1) of blanks alone", duty.drift(1), Checks.NOT);
     }
 
+    /** Nothing of a text is left in a later one, be it read well or not. */
+    private void textsInARow() {
+        MindDuty duty = Checks.made("g50 20;i30;i20;j0 0 1;d0 1 5;r1;t3;t1;");
+        checks.due("another", Checks.read(duty, "g60 30;i9;i8;i7;j1 1 0;j1 1 2;d0 1 5;d1 2 4;r0;r2;t7;t7;t7;"), 3);
+        checks.due("a small one", Checks.read(duty, "g70 0;i5;"), 1);
+        int[] due = {70, 0, 1, 0, 0, 0, 0, 0, 0, 0, 0, 0, 0, 0, 0, 0};
+        for (int what = 0; what <= 15; what++) {
+            checks.due("told(" + what + ") of a small one", duty.told(what), due[what]);
+        }
+        checks.due("follows(1) of a small one", duty.follows(1), 1);
+        checks.due("an empty one", duty.thePass(), 0);
+        checks.due("another empty one", duty.thePass(), 0);
+        for (int what = 0; what <= 15; what++) {
+            checks.due("told(" + what + ") of an empty one", duty.told(what), 0);
+        }
+        checks.due("a long one", Checks.read(duty, "g1 0;i5;i6;i7;i8;t3;"), 4);
+        checks.due("its beginning alone", Checks.read(duty, "g1 0;i5"), -11);
+        checks.due("fault() at its end", duty.fault(), 7);
+        checks.due("its beginning within a NUMBER's place", Checks.read(duty, "g1 0;i"), -11);
+        checks.due("fault() at its end", duty.fault(), 6);
+        checks.due("its clause whole", Checks.read(duty, "g1 0;i5;"), 1);
+    }
+
     private void told() {
         MindDuty duty = Checks.made("g40 7;i30;i20;i3;j0 0 1;j1 1 2;d0 1 5;d1 2 5;d0 2 6;r1;t1;t3;t7;t2;");
         Checks.feed(duty, "g1");
@@ -292,6 +316,7 @@ public final class PassTextTest {
         for (int what = 0; what <= 15; what++) {
             checks.due("told(" + what + ")", duty.told(what), due[what]);
         }
+        checks.due("told(10) of all", Checks.made("g5 0;i6;t1;t0;t1;t1;t1;").told(10), 29);
         for (int wild : Checks.WILD) {
             if (wild < 0 || wild > 15) {
                 checks.due("told(" + wild + ")", duty.told(wild), Checks.OUTSIDE);
