@@ -323,7 +323,7 @@ public final class MindDuty {
 
     public int askNext() {
         questions.look(country.ideas);
-        return questions.bestIdea(country.ideas);
+        return questions.bestIdea();
     }
 
     public int write(int i, int is) {
@@ -810,7 +810,7 @@ public final class MindDuty {
         }
 
         private void skipBlanks() {
-            while (at < length && letterHere() == BLANK) {
+            while (at < length && at < MOST_LETTERS && letters[at] == BLANK) {
                 at++;
             }
         }
@@ -994,10 +994,11 @@ public final class MindDuty {
             }
         }
 
-        int bestIdea(int ideas) {
+        int bestIdea() {
             int best = NONE;
             int bestPart = fitting;
-            for (int i = 0; i < ideas && i < MOST_IDEAS; i++) {
+            // one that there is not is in no mind, so it parts none
+            for (int i = 0; i < MOST_IDEAS; i++) {
                 int part = Math.max(having[i], fitting - having[i]);
                 if (part < bestPart) {
                     best = i;

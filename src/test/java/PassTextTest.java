@@ -282,8 +282,8 @@ public final class PassTextTest {
     private void textsInARow() {
         MindDuty duty = Checks.made("g50 20;i30;i20;j0 0 1;d0 1 5;r1;t3;t1;");
         checks.due("another", Checks.read(duty, "g60 30;i9;i8;i7;j1 1 0;j1 1 2;d0 1 5;d1 2 4;r0;r2;t7;t7;t7;"), 3);
-        checks.due("a small one", Checks.read(duty, "g70 0;i5;"), 1);
-        int[] due = {70, 0, 1, 0, 0, 0, 0, 0, 0, 0, 0, 0, 0, 0, 0, 0};
+        checks.due("a small one", Checks.read(duty, "g70 9;i5;"), 1);
+        int[] due = {70, 9, 1, 0, 0, 0, 0, 0, 0, 0, 0, 0, 0, 0, 0, 0};
         for (int what = 0; what <= 15; what++) {
             checks.due("told(" + what + ") of a small one", duty.told(what), due[what]);
         }
