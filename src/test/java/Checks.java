@@ -15,13 +15,23 @@ final class Checks {
 
     private int asked;
     private int wrong;
+    private String about = "";
+
+    /** What the checks from here on are of, told ahead of each that is wrong. */
+    void about(String what) {
+        about = what;
+    }
+
+    int asked() {
+        return asked;
+    }
 
     void due(String call, long got, long want) {
         asked++;
         if (got != want) {
             wrong++;
             if (wrong <= 50) {
-                System.out.println(String.format(Locale.ROOT, "%s answered %d, due is %d", call, got, want));
+                System.out.println(String.format(Locale.ROOT, "%s%s answered %d, due is %d", about, call, got, want));
             }
         }
     }
