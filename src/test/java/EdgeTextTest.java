@@ -358,6 +358,19 @@ public final class EdgeTextTest extends Sentences {
             faulty(1, beginning + " ^");
             faulty(1, beginning + "   ^");
         }
+        endBehindALonger("g1 0;i5;i4;", "g1 0;i5;i4");
+        endBehindALonger("g1 0;i5;i4;", "g1 0;i5;i");
+        endBehindALonger("g1 0;i5;i4;", "g1 0;i");
+        endBehindALonger("g1 0   ;", "g1 0");
+        endBehindALonger("g1 0   ;", "g1 ");
+        endBehindALonger("g1 0;i5;", "g1");
+    }
+
+    /** The letters that an earlier text had there do not count. */
+    private void endBehindALonger(String longer, String text) {
+        MindDuty duty = Checks.made(longer);
+        due("[" + text + "] behind [" + longer + "]", Checks.read(duty, text), -11);
+        due("its end", duty.fault(), text.length());
     }
 
     @Says("Section 1: of these the least:")

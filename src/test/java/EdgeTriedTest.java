@@ -144,6 +144,7 @@ public final class EdgeTriedTest extends Sentences {
         due("3 alone", Checks.made("g9 0;i9;i9;i9;i9;d0 3 8;d0 2 4;d2 3 5;d0 1 6;d1 3 4;").talkDown(0, 3, 1), 3);
         due("the least next, though further", Checks.made("g9 0;i9;i9;i9;i9;i9;d0 4 9;d4 3 1;d0 1 2;d1 2 4;d2 3 4;").talkDown(0, 3, 1), 1);
         due("not by the slower of two", Checks.made("g9 0;i9;i9;i9;i9;d0 1 5;d0 1 4;d1 3 4;d0 2 4;d2 3 3;").talkDown(0, 3, 1), 2);
+        due("not one from which no way leads", Checks.made("g9 0;i9;i9;i9;d0 1 5;d0 2 4;").talkDown(0, 2, 1), 2);
         due("no TALK at all", Checks.made("g9 0;i9;i9;").talkDown(0, 1, 0), NONE);
         due("no next at all", Checks.made("g9 0;i9;i9;").talkDown(0, 1, 1), NONE);
         due("a way that ends elsewhere", Checks.made("g9 0;i9;i9;i9;d0 1 5;").talkDown(0, 2, 1), NONE);
@@ -421,6 +422,11 @@ public final class EdgeTriedTest extends Sentences {
         due("no mind", asked(0, 0, true).askNext(), NONE);
         due("without IDEAS", bare().askNext(), NONE);
         due("without a PASS", none().askNext(), NONE);
+        MindDuty again = Checks.made("g9 0;i1;i1;i1;");
+        for (int k = 0; k < 3; k++) {
+            due("as often as it is asked", again.askNext(), 0);
+            due("and what fits", again.minds(0), 8);
+        }
         MindDuty last = Checks.made("g9 0;i1;i1;i1;i1;i1;i1;i1;i1;");
         last.ask(127, 1, true);
         due("the last of eight alone parts them", last.askNext(), 7);
@@ -596,6 +602,10 @@ public final class EdgeTriedTest extends Sentences {
             duty.drift(2);
             due("0, and 9988 left over by " + travellers, duty.told(9), 1 | 1 << second[travellers]);
         }
+        MindDuty most = Checks.made("g999 0;i1;t0;t0;t0;t0;t0;");
+        most.seed(2147483647);
+        most.drift(1);
+        due("1043980748 / 65536 is 15929, left over by 5", most.told(9), 16);
     }
 
     @Says("Section 3: n days, if there are TRAVELLERS and IDEAS:")
@@ -666,9 +676,23 @@ public final class EdgeTriedTest extends Sentences {
             due("his IDEAS", duty.traveller(0, 0), 4);
             due("three DRAWS", duty.seed(0), 654583775);
         }
+        // from these the third DRAW is 8200, 24950, 11999: the least of 100, one amid, the greatest
+        lostBelow(507, 0);
+        lostBelow(119, 50);
+        lostBelow(16, 99);
         MindDuty safe = Checks.made("g5 0;i6;t0;");
         safe.drift(60);
         due("nobody is lost without risk", safe.told(7), 1);
+    }
+
+    private void lostBelow(int seed, int third) {
+        for (int risk = Math.max(0, third - 1); risk <= Math.min(99, third + 1); risk++) {
+            MindDuty duty = Checks.made("g5 " + risk + ";i6;t0;");
+            duty.seed(seed);
+            duty.drift(1);
+            due("STUCK with", duty.traveller(0, 0), 1);
+            due(third + " of 100 at " + risk, duty.told(7), third < risk ? 0 : 1);
+        }
     }
 
     // ---- undone

@@ -72,8 +72,8 @@ final class Seen {
         put("smallest", duty.smallest(0), duty.smallest(1));
         put("free", duty.free());
         put("glacier", duty.glacier(1), duty.glacier(60));
-        put("minds", duty.minds(0), duty.minds(1), duty.minds(2));
         put("askNext", duty.askNext());
+        put("minds", duty.minds(0), duty.minds(1), duty.minds(2));
         put("judge", duty.judge());
     }
 
