@@ -134,6 +134,33 @@ public final class EdgePromisesTest extends Sentences {
         });
     }
 
+    /** All that a text can tell, so that what is left of it would show. */
+    private static final String MUCH = "g99 9;i9;i9;i9;i9;i9;i9;i9;i9;" + "j0 0 1;j1 1 2;".repeat(5) + "d0 2 5;d0 1 5;".repeat(5)
+            + "r5;r6;t255;t1;t2;t3;t4;";
+
+    @Says("Promise 3: THE TEXT (it is empty then, with a FAULT, too) becomes THE PASS")
+    void p03NothingOfEarlierOnes() {
+        String last = "g9 0;i30;i20;i5;t1;t7;";
+        String[][] rows = {{MUCH}, {MUCH, "g1 0;"}, {MUCH, ""}, {"g1 0;", MUCH}, {MUCH, "g1 0;", "g2 0;"}, {MUCH, "g1 0;i5;x"},
+            {"g1 0;", MUCH + "x"}};
+        for (String[] row : rows) {
+            same("behind " + row.length + " texts", () -> Checks.made(last), () -> {
+                MindDuty duty = none();
+                for (String text : row) {
+                    Checks.read(duty, text);
+                }
+                Checks.read(duty, last);
+                return duty;
+            });
+        }
+        same("much behind much and little", () -> Checks.made(MUCH), () -> {
+            MindDuty duty = Checks.made(last);
+            Checks.read(duty, "g1 0;i5;i6;j0 0 1;");
+            Checks.read(duty, MUCH);
+            return duty;
+        });
+    }
+
     @Says("Promise 3: nothing ASKED, no BOOK;")
     void p03NothingAskedNoBook() {
         due("ASKED ahead", used().told(13), 2);

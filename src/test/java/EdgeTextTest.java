@@ -179,6 +179,10 @@ public final class EdgeTextTest extends Sentences {
         due("TALKS", good(TWO + "d0 1 5;".repeat(10), 2).told(4), 10);
         faulty(3, TWO + "d0 1 5;".repeat(10) + "^d0 1 5;");
         due("the tenth is talked by", good(TWO + "d0 1 5;".repeat(9) + "d0 1 4;", 2).talkDown(0, 1, 0), 4);
+        MindDuty ten = good("g4 0;i5;i4;i4;" + "d0 1 5;".repeat(9) + "d0 2 4;t1;", 3);
+        due("the tenth is next", ten.talkDown(0, 2, 1), 2);
+        due("the tenth is SOONEST", ten.soonest(0), 4);
+        due("he is TALKED down by the tenth", ten.talk(0, 0, 2), 4);
         due("none", good(TWO, 2).told(4), 0);
     }
 

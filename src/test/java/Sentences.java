@@ -69,7 +69,12 @@ abstract class Sentences {
 
     /** The call is refused as told, and all that can be seen of the object is as ahead of it. */
     final void refused(String call, Supplier<MindDuty> making, ToIntFunction<MindDuty> asking, int want) {
-        due(call, asking.applyAsInt(making.get()), want);
+        int got = asking.applyAsInt(making.get());
+        due(call, got, want);
+        if (got != want) {
+            // what was not refused may run long: once is enough
+            return;
+        }
         same(call + " changes nothing", making, () -> {
             MindDuty duty = making.get();
             asking.applyAsInt(duty);
